@@ -292,6 +292,17 @@ public final class AskTest {
         T.due("5 later", k.ring(1), 5);
         Due.days(k, 3);
         T.due("from now on", k.ring(0), 3);
+        GladSpider i = Due.on("field 1;person 5;person 5;spider 1 3");
+        i.lie(0);
+        i.lie(1);
+        T.due("ON whose is told apart", i.ring(0), 1);
+        T.due("3 later", i.ring(1), 3);
+        GladSpider j = Due.on("field 2;person 5;person 5;spider 1 3");
+        j.lie(1);
+        Due.days(j, 3);
+        j.lie(0);
+        T.due("BACK to whom is told apart", j.ring(0), 6);
+        T.due("5 later", j.ring(1), 5);
         GladSpider m = Due.on("field 1;person 60;spider 0 1", "take 1 if day < 60", "take 1 if day < 57");
         T.due("none", m.ring(0), -2);
         T.due("none", m.ring(1), -2);

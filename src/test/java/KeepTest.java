@@ -6,6 +6,7 @@ public final class KeepTest {
         notes();
         ruled();
         look();
+        sixRules();
         seed();
         breezes();
         count();
@@ -167,6 +168,17 @@ public final class KeepTest {
         T.due("count -1", g.count(-1), -1);
     }
 
+    private static void sixRules() {
+        GladSpider g = Due.on("field 1;person 9;spider 0 3", "take 0", "take 0", "take 0", "take 0", "take 0", "take 1");
+        g.note(1, 0, 6);
+        T.due("none and the last", g.ruled(0), 2);
+        g.note(-1, 0, 0);
+        T.due("five alike", g.look(1, 1), 5);
+        g.force(5);
+        g.day();
+        T.due("the last in force", g.person(0, 0), 6);
+    }
+
     private static void images() {
         GladSpider g = Due.on(SummerTest.FIELD, "take 1", "take 2");
         g.force(1);
@@ -210,9 +222,25 @@ public final class KeepTest {
         T.due("its x", g.count(13), 6);
         T.due("its notes", g.count(11), 0);
         Due.days(g, 4);
+        notesOfImages();
         T.due("in place of the other", g.image(0), 5);
         g.day();
         T.due("back", g.back(0), 5);
+    }
+
+    private static void notesOfImages() {
+        GladSpider g = Due.on(SummerTest.FIELD);
+        g.note(0, 0, 5);
+        g.image(2);
+        g.note(-1, 0, 0);
+        g.note(3, 1, 9);
+        T.due("not so", g.ruled(0), 0);
+        g.back(2);
+        T.due("so", g.ruled(0), 1);
+        g.note(0, 1, 1);
+        T.due("so of the other one, too", g.ruled(0), 1);
+        g.note(0, 1, 5);
+        T.due("not so", g.ruled(0), 0);
     }
 
     private static void imagesOfNothing() {

@@ -8,6 +8,8 @@ public final class SummerTest {
         daysWithoutRule();
         daysForOneWhoLies();
         takenFromTheFullest();
+        takenFromSeveralAlike();
+        fivePeople();
         takenOneByOneInTheHedge();
         waysAreAsFarAsTold();
         backToTheGladdest();
@@ -160,6 +162,39 @@ public final class SummerTest {
         T.due("hedge of 2", g.inHedge(2), 2);
     }
 
+    private static void takenFromSeveralAlike() {
+        GladSpider g = Due.on("field 1;person 2;person 2;spider 0 1;spider 1 3");
+        g.give(1, 0, 1);
+        g.give(1, 0, 1);
+        g.day();
+        isPerson(g, 0, 1, 2);
+        T.due("the least person's", g.spider(0, 4), 1);
+        g.day();
+        T.due("hedge of 0", g.inHedge(0), 1);
+        T.due("hedge of 1", g.inHedge(1), 0);
+    }
+
+    private static void fivePeople() {
+        GladSpider g = Due.on("field 1;person 1;person 2;person 3;person 4;person 5;spider 3 9;spider 4 9;work 60");
+        for (int p = 1; p < 5; p++) {
+            for (int n = 0; n < p; n++) {
+                g.give(p, 0, p);
+            }
+        }
+        T.due("pieces", g.person(0, 0), 1 + 1 + 2 + 3 + 4);
+        for (int p = 0; p < 5; p++) {
+            T.due("of " + p, g.person(0, 2 + p), Math.max(1, p));
+        }
+        T.due("all", g.count(7), 15);
+        g.day();
+        T.due("came", g.day(), 2);
+        T.due("hedge", g.count(8), 2);
+        T.due("hedge of 3", g.inHedge(3), 1);
+        T.due("hedge of 4", g.inHedge(4), 1);
+        T.due("all", g.count(7), 13);
+        T.due("ways", g.lying(3, 0), 1);
+    }
+
     private static void takenOneByOneInTheHedge() {
         GladSpider g = Due.on("field 1;person 5;person 3;person 0;spider 0 5;spider 1 3;spider 2 4;work 1");
         g.lie(2);
@@ -261,6 +296,11 @@ public final class SummerTest {
         holds("not 1=2 and 1=2", false);
         holds("not [1=2 and 1=2]", true);
         holds("not not 1=1", true);
+        holds("not 1=1", false);
+        holds("not not 1=2", false);
+        holds("not 1<1 and not 2<=1 and not 1=2 and not 1>=2 and not 1>1", true);
+        holds("1<2 and 1<=2 and 1=1 and 2>=1 and 2>1", true);
+        holds("2>1 and 2>=1 and 1=1 and 1<=2 and 1<2 and not 1=2", true);
         holds("not 1=2 or 1=2", true);
         holds("10-3-4=3", true);
         holds("100/10/5=2", true);

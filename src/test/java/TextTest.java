@@ -112,6 +112,34 @@ public final class TextTest {
         T.due("acts stay", g.count(12), 1);
         g.end(16);
         T.due("mended", g.field(), 1);
+        staleBytes();
+        nothingIsLeftOver();
+    }
+
+    /** What stood behind the end before is not read. */
+    private static void staleBytes() {
+        GladSpider g = new GladSpider();
+        Due.tape(g, "field 1;person 12");
+        g.end(16);
+        T.due("a digit behind", g.field(), 1);
+        T.due("pieces", g.person(0, 0), 1);
+        Due.tape(g, "take gladly");
+        g.end(9);
+        T.due("letters behind", g.rule(), 0);
+    }
+
+    private static void nothingIsLeftOver() {
+        String last = "field 3;person 8;person 2;person 0;spider 1 4;spider 1 4;work 30";
+        GladSpider g = Due.on("field 1;person 9;person 9;person 9;person 9;person 9;spider 0 2;spider 1 3;spider 2 4;work 1");
+        g.give(0, 1, 0);
+        g.lie(4);
+        Due.days(g, 7);
+        Due.field(g, last);
+        int[] got = Snapshot.of(g);
+        int[] want = Snapshot.of(Due.on(last));
+        for (int i = 0; i < want.length; i++) {
+            T.due("as in a new object " + i, got[i], want[i]);
+        }
     }
 
     private static void isFieldFault(String text, int place, int kind) {
@@ -130,6 +158,11 @@ public final class TextTest {
         isFieldFault("field 000001", 6, 1);
         isFieldFault("field 99999999999999999999", 6, 1);
         isFieldFault("fields 1", 0, 0);
+        isFieldFault("afield 1", 0, 0);
+        isFieldFault("fieldz 1", 0, 0);
+        isFieldFault("field 1" + " ".repeat(392) + ";", 400, 0);
+        isFieldFault(" ".repeat(400), 400, 0);
+        isFieldFault(";".repeat(400), 0, 0);
         isFieldFault("Field 1", 0, 0);
         isFieldFault("field x", 6, 0);
         isFieldFault("field 1x", 7, 0);
@@ -272,6 +305,9 @@ public final class TextTest {
         isRuleFault("take 1 if " + "1=1 or ".repeat(19) + "1=1", 10 + 19 * 7 + 2, 3);
         isRuleFault("take 1 if " + "1=1 or ".repeat(19) + "1<=1", 10 + 19 * 7 + 3, 3);
         isRuleFault("take 1+1 if " + "1=1 or ".repeat(19) + "1 1", 12 + 19 * 7 + 2, 0);
+        GladSpider g = new GladSpider();
+        Due.rule(g, "take " + "1+".repeat(59) + "1");
+        T.due("counted anew for each rule", Due.rule(g, "take " + "1+".repeat(59) + "1"), 1);
         // They are counted over all CLAUSES.
         isRuleFault("take " + "1+".repeat(58) + "1;take 1;take 1", 135, 3);
     }
