@@ -82,15 +82,16 @@ public final class GladSpider {
         ruleReader = new RuleReader(tape);
         rules = new Rule[MOST_RULES];
         inForce = NONE;
-        now = new Summer();
-        acts = new Acts();
+        Field nothing = new Field();
+        now = new Summer(nothing);
+        acts = new Acts(nothing);
         notes = new Notes();
         images = new Image[MOST_IMAGES];
         for (int k = 0; k < MOST_IMAGES; k++) {
-            images[k] = new Image();
+            images[k] = new Image(nothing);
         }
         foresight = new Foresight(now);
-        sieve = new Sieve();
+        sieve = new Sieve(nothing);
     }
 
     public int feed(int a, int b, int c, int d, int e) {
@@ -503,18 +504,15 @@ public final class GladSpider {
             return values[at];
         }
 
-        void next() {
-            if (at < tokenCount - 1) {
-                at++;
-            }
-        }
-
         /** Goes on behind the token, if it is of that kind and all was well up to here. */
         boolean passes(int kind) {
             if (fault != 0 || kinds[at] != kind) {
                 return false;
             }
-            next();
+            // Nothing stands behind the end, so it is never left.
+            if (at < tokenCount - 1) {
+                at++;
+            }
             return true;
         }
 
@@ -667,7 +665,7 @@ public final class GladSpider {
                 tape.refuse(TOO_MANY_CLAUSES);
                 return;
             }
-            tape.next();
+            tape.passes(word);
             if (word == FIELD) {
                 field.far = readNumber(1, 9);
             } else if (word == PERSON) {
@@ -693,7 +691,7 @@ public final class GladSpider {
                 tape.refuse(WRONG_NUMBER);
                 return 0;
             }
-            tape.next();
+            tape.passes(NUMBER);
             return number;
         }
     }
@@ -762,38 +760,35 @@ public final class GladSpider {
 
         private void readFact(int depth) {
             int kind = tape.kind();
-            if (kind != NOT && kind != '[') {
-                readComparison();
-                return;
-            }
-            if (depth >= MOST_DEPTH) {
+            if ((kind == NOT || kind == '[') && depth >= MOST_DEPTH) {
                 tape.refuse(TOO_DEEP);
-                return;
-            }
-            tape.next();
-            if (kind == NOT) {
+            } else if (tape.passes(NOT)) {
                 readFact(depth + 1);
                 addStep(-NOT);
-                return;
-            }
-            readTest(depth + 1);
-            if (!tape.passes(']')) {
-                tape.refuse(CANNOT_STAND);
-            }
-        }
-
-        private void readComparison() {
-            readSum();
-            int sign = tape.kind();
-            if (sign != '<' && sign != AT_MOST && sign != '=' && sign != AT_LEAST && sign != '>') {
-                tape.refuse(CANNOT_STAND);
-                return;
-            }
-            countValue();
-            if (tape.passes(sign)) {
+            } else if (tape.passes('[')) {
+                readTest(depth + 1);
+                if (!tape.passes(']')) {
+                    tape.refuse(CANNOT_STAND);
+                }
+            } else {
+                readSum();
+                int sign = readSign();
                 readSum();
                 addStep(-sign);
             }
+        }
+
+        private int readSign() {
+            int sign = tape.kind();
+            if (sign != '<' && sign != AT_MOST && sign != '=' && sign != AT_LEAST && sign != '>') {
+                tape.refuse(CANNOT_STAND);
+            }
+            if (valueCount >= Rule.MOST_VALUES) {
+                tape.refuse(TOO_MANY_VALUES);
+            }
+            valueCount++;
+            tape.passes(sign);
+            return sign;
         }
 
         private void readSum() {
@@ -828,23 +823,15 @@ public final class GladSpider {
             int kind = tape.kind();
             if (kind != NUMBER && !isIn(kind, SPIDER, DAY)) {
                 tape.refuse(CANNOT_STAND);
-                return;
-            }
-            if (kind == NUMBER && tape.value() < 0) {
+            } else if (kind == NUMBER && tape.value() < 0) {
                 tape.refuse(WRONG_NUMBER);
-                return;
             }
-            countValue();
-            addStep(kind == NUMBER ? tape.value() : -kind);
-            tape.passes(kind);
-        }
-
-        private void countValue() {
             if (valueCount >= Rule.MOST_VALUES) {
                 tape.refuse(TOO_MANY_VALUES);
-                return;
             }
             valueCount++;
+            addStep(kind == NUMBER ? tape.value() : -kind);
+            tape.passes(kind);
         }
 
         private void addStep(int step) {
@@ -916,7 +903,7 @@ public final class GladSpider {
 
     /** All that DAYS and ACTS change, with the FIELD that it began from. */
     private static final class Summer {
-        private Field field = new Field();
+        private Field field;
         /** Five counts for each PERSON: of whom they have how many. */
         private final int[] owns = new int[MOST_PEOPLE * MOST_PEOPLE];
         private final int[] hedge = new int[MOST_PEOPLE];
@@ -929,6 +916,10 @@ public final class GladSpider {
         private int lying;
         private int built;
         private int day;
+
+        Summer(Field field) {
+            this.field = field;
+        }
 
         void begin(Field told) {
             field = told;
@@ -995,7 +986,7 @@ public final class GladSpider {
             lying = isLying ? lying | 1 << person : lying & ~(1 << person);
         }
 
-        /** The place on the sleeves and ways as one number. */
+        /** Where a SPIDER is, with whose sleeve, to whom and how many days left, as one number. */
         int whereabouts(int spider) {
             return (place[spider] * 10 + who[spider] + 1) * 10 + left[spider];
         }
@@ -1007,9 +998,9 @@ public final class GladSpider {
                 case SPIDER: return spider;
                 case PERSON: return person;
                 case CARRIES: return field.carries[spider];
-                case GLAD: return pieces(person);
+                case GLAD: return fiveOf(owns, person);
                 case OWN: return piecesOf(person, person);
-                case HEDGE: return piecesInHedge();
+                case HEDGE: return fiveOf(hedge, 0);
                 case BUILT: return built;
                 case NEED: return built < field.works ? field.needs[built] : 0;
                 case WITH: return othersOnSleeve(spider);
@@ -1090,7 +1081,7 @@ public final class GladSpider {
         private int gladdest() {
             int most = 0;
             for (int p = 1; p < field.people; p++) {
-                if (pieces(p) > pieces(most)) {
+                if (fiveOf(owns, p) > fiveOf(owns, most)) {
                     most = p;
                 }
             }
@@ -1231,9 +1222,9 @@ public final class GladSpider {
         private int count;
         private int next;
 
-        Acts() {
+        Acts(Field nothing) {
             for (int i = 0; i < MOST_ACTS; i++) {
-                before[i] = new Summer();
+                before[i] = new Summer(nothing);
             }
         }
 
@@ -1295,10 +1286,14 @@ public final class GladSpider {
 
     private static final class Image {
         private boolean isMade;
-        private final Summer summer = new Summer();
+        private final Summer summer;
         private final Notes notes = new Notes();
         private int inForce;
         private int x;
+
+        Image(Field nothing) {
+            summer = new Summer(nothing);
+        }
     }
 
     /** What is asked of DAYS from now on: they are gone through on trial, now stays as it is. */
@@ -1306,7 +1301,7 @@ public final class GladSpider {
         private static final int RING_DAYS = 60;
 
         private final Summer now;
-        private final Summer trial = new Summer();
+        private final Summer trial;
         private final int[] ringPieces = new int[(RING_DAYS + 1) * MOST_PEOPLE];
         private final int[] ringSpiders = new int[(RING_DAYS + 1) * MOST_SPIDERS];
         private final int[] gainsOfOne = new int[4];
@@ -1317,6 +1312,7 @@ public final class GladSpider {
 
         Foresight(Summer now) {
             this.now = now;
+            trial = new Summer(now.field);
         }
 
         Summer after(int days, Rule rule) {
@@ -1516,11 +1512,15 @@ public final class GladSpider {
 
     /** By which RULES the NOTES are so. Candidate 0 is no RULE, candidate n is RULE n - 1. */
     private static final class Sieve {
-        private final Summer trial = new Summer();
+        private final Summer trial;
         private final boolean[] fits = new boolean[MOST_RULES + 1];
         private final int[] seen = new int[(MOST_RULES + 1) * MOST_PEOPLE];
         private int candidates;
         private int people;
+
+        Sieve(Field nothing) {
+            trial = new Summer(nothing);
+        }
 
         /** Keeps of each candidate whether it fits, and what people have on the DAY looked at. */
         void sift(Field field, Notes notes, Rule[] rules, int ruleCount, int lookDay) {
