@@ -116,10 +116,10 @@ public final class GladSpider {
 
     public int field() {
         Field told = fieldReader.read();
+        tape.length = 0;
         if (told == null) {
             return NOT_THERE - tape.fault;
         }
-        tape.length = 0;
         now.begin(told);
         notes.count = 0;
         acts.count = 0;
@@ -131,10 +131,10 @@ public final class GladSpider {
             return NONE;
         }
         Rule told = ruleReader.read();
+        tape.length = 0;
         if (told == null) {
             return NOT_THERE - tape.fault;
         }
-        tape.length = 0;
         rules[ruleCount] = told;
         ruleCount++;
         return ruleCount - 1;

@@ -527,12 +527,13 @@ final class PlainModel {
     }
 
     int field() {
+        String text = tape.toString();
+        tape.setLength(0);
         try {
-            now = new State(new Reader(tape.toString()).field());
+            now = new State(new Reader(text).field());
         } catch (Fault f) {
             return -2 - f.number;
         }
-        tape.setLength(0);
         notes.clear();
         acts.clear();
         return now.people.size();
@@ -542,12 +543,13 @@ final class PlainModel {
         if (rules.size() == 6) {
             return -1;
         }
+        String text = tape.toString();
+        tape.setLength(0);
         try {
-            rules.add(new Reader(tape.toString()).rule());
+            rules.add(new Reader(text).rule());
         } catch (Fault f) {
             return -2 - f.number;
         }
-        tape.setLength(0);
         return rules.size() - 1;
     }
 

@@ -103,17 +103,29 @@ public final class TextTest {
         T.due("nobody lies", g.count(10), 0);
         T.due("pieces", g.count(7), 8);
 
-        g.day();
-        g.note(1, 0, 1);
-        T.due("fault", Due.field(g, "field 3;person 61"), Due.fault(15, 1));
-        T.due("tape stays", g.count(14), 17);
-        T.due("field stays", g.count(6), 1);
-        T.due("notes stay", g.count(11), 1);
-        T.due("acts stay", g.count(12), 1);
-        g.end(16);
-        T.due("mended", g.field(), 1);
+        faultOfAField(g);
         staleBytes();
         nothingIsLeftOver();
+    }
+
+    /** The TAPE is empty behind it; all else that a FIELD would put an end to stays. */
+    private static void faultOfAField(GladSpider g) {
+        g.day();
+        g.note(1, 0, 1);
+        int[] before = Snapshot.of(g);
+        T.due("fault", Due.field(g, "field 3;person 61"), Due.fault(15, 1));
+        int[] behind = Snapshot.of(g);
+        for (int i = 0; i < before.length; i++) {
+            T.due("behind the fault " + i, behind[i], before[i]);
+        }
+        T.due("tape", g.count(14), 0);
+        T.due("notes stay", g.count(11), 1);
+        T.due("acts stay", g.count(12), 1);
+        T.due("the empty tape", g.field(), Due.fault(0, 0));
+        T.due("the first twenty", g.feed(0, 0, 0, 0, 0), 20);
+        g.end(0);
+        T.due("undo", g.undo(), 0);
+        T.due("the day undone", g.count(6), 0);
     }
 
     /** What stood behind the end before is not read. */
@@ -146,6 +158,7 @@ public final class TextTest {
         GladSpider g = new GladSpider();
         T.due("field " + text, Due.field(g, text), Due.fault(place, kind));
         T.due("no field of " + text, g.count(0), 0);
+        T.due("empty behind " + text, g.count(14), 0);
     }
 
     private static void faultsOfFields() {
@@ -205,8 +218,10 @@ public final class TextTest {
         T.due("rule 1", Due.rule(g, "take1+2*glad/3%4-own if spider<1 or not person<=2 and[carries=3]"), 1);
         T.due("rule 2", Due.rule(g, " take 1 if hedge >= 99999;take built - need;take 0 if with > lying or day = 00000 "), 2);
         T.due("fault", Due.rule(g, "take 1 if"), Due.fault(9, 0));
-        T.due("tape stays", g.count(14), 9);
+        T.due("tape behind a fault", g.count(14), 0);
         T.due("rules", g.count(4), 3);
+        T.due("the empty tape", g.rule(), Due.fault(0, 0));
+        T.due("the first twenty", g.feed(0, 0, 0, 0, 0), 20);
         T.due("rule 3", Due.rule(g, "take 01"), 3);
         T.due("rule 4", Due.rule(g, "take 2"), 4);
         T.due("rule 5", Due.rule(g, "take 3"), 5);
@@ -214,12 +229,14 @@ public final class TextTest {
         T.due("nothing happened", g.count(14), 6);
         T.due("rules", g.count(4), 6);
         T.due("none by a fault", Due.rule(g, "take"), -1);
+        T.due("nothing happened", g.count(14), 4);
     }
 
     private static void isRuleFault(String text, int place, int kind) {
         GladSpider g = new GladSpider();
         T.due("rule " + text, Due.rule(g, text), Due.fault(place, kind));
         T.due("no rule of " + text, g.count(4), 0);
+        T.due("empty behind " + text, g.count(14), 0);
     }
 
     private static void isRule(String text) {
