@@ -6,6 +6,7 @@ public final class SummerEdgeTest {
     private static final Due T = new Due("SummerEdgeTest");
 
     public static void main(String[] args) {
+        asManyPeopleAsTold();
         asManyAsItCarries();
         oneOfWhoseThereAreMost();
         ofSeveralTheLeastPersons();
@@ -43,6 +44,28 @@ public final class SummerEdgeTest {
     private static void give(GladSpider g, int one, int other, int many) {
         for (int n = 0; n < many; n++) {
             g.give(one, other, one);
+        }
+    }
+
+    /** "how many of them are of the PERSON less 2 (0, if there is none such). NONE without these." */
+    private static void asManyPeopleAsTold() {
+        for (int people = 0; people <= 5; people++) {
+            GladSpider g = Due.on("field 1" + ";person 8".repeat(people) + (people > 0 ? ";spider 0 3" : ""));
+            give(g, 0, people - 1, 2);
+            for (int p = 0; p <= 5; p++) {
+                int gave = people > 1 && p == 0 ? 6 : 8;
+                int got = people > 1 && p == people - 1 ? 2 : 0;
+                T.due("pieces of " + p + " of " + people, g.person(p, 0), p < people ? gave + got : -1);
+                T.due("in the hedge of " + p + " of " + people, g.inHedge(p), p < people ? 0 : -1);
+                for (int q = 0; q < 5; q++) {
+                    int want = p == q ? gave : q == 0 ? got : 0;
+                    T.due("of " + q + " at " + p + " of " + people, g.person(p, 2 + q), p < people ? want : -1);
+                }
+                T.due("what 7", g.person(p, 7), -1);
+            }
+            T.due("spider", g.spider(0, 0), people > 0 ? 3 : -2);
+            T.due("spider 1", g.spider(1, 0), -2);
+            T.due("work", g.work(0), -1);
         }
     }
 
