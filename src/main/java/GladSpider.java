@@ -1498,7 +1498,8 @@ public final class GladSpider {
         }
 
         private int draw() {
-            drawn = drawn * 1103515245 + 12345 & Integer.MAX_VALUE;
+            // The rest of 2147483648 is the lowest 31 bits, also where the product went round.
+            drawn = drawn * 1103515245 + 12345 & 2147483647;
             return drawn / 65536;
         }
 

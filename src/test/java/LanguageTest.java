@@ -1,3 +1,6 @@
+import java.io.DataInputStream;
+import java.io.IOException;
+import java.io.InputStream;
 import java.lang.reflect.Constructor;
 import java.lang.reflect.Field;
 import java.lang.reflect.Method;
@@ -17,10 +20,21 @@ public final class LanguageTest {
             + "brush2 undo0 ahead3 made1 even1 home2 lowest3 lying2 had4 brushed3 skip2 owed1 rests4 ring1 pence2 note3 "
             + "ruled1 look2 seed1 breezes4 count1 image1 back1";
 
+    /** Rule 4, "The library: only what stands here", as far as the class needs it. */
+    private static final Set<String> LIBRARY = Set.of("Object.<init>", "String.length", "String.charAt", "String.indexOf",
+            "Integer.bitCount", "Integer.numberOfTrailingZeros", "Math.max", "Math.min", "Math.abs",
+            "System.arraycopy", "Arrays.copyOf", "Arrays.fill");
+
     public static void main(String[] args) throws Exception {
+        String text = Files.readString(Path.of("src/main/java/GladSpider.java"));
         face();
         classesInside();
-        text(Files.readString(Path.of("src/main/java/GladSpider.java")));
+        text(text);
+        libraryNamed(code(text));
+        libraryUsed(GladSpider.class);
+        for (Class<?> inside : GladSpider.class.getDeclaredClasses()) {
+            libraryUsed(inside);
+        }
         T.finish();
     }
 
@@ -68,8 +82,70 @@ public final class LanguageTest {
         }
     }
 
+    private static String code(String text) {
+        return text.replaceAll("(?s)/\\*.*?\\*/", "").replaceAll("//[^\n]*", "").replaceAll("\"[^\"\n]*\"", "\"\"");
+    }
+
+    /**
+     * Rule 4 has "the static functions of Integer, Long and Math", and none of their constants. The
+     * compiler puts a constant's number in its place, so that only the text shows it.
+     */
+    private static void libraryNamed(String code) {
+        Set<String> own = new TreeSet<>();
+        for (Class<?> inside : GladSpider.class.getDeclaredClasses()) {
+            own.add(inside.getSimpleName());
+        }
+        String body = code.replaceAll("(?m)^import java\\.util\\.Arrays;", "");
+        T.due("no other import", body.contains("import ") ? 1 : 0, 0);
+        Matcher named = Pattern.compile("\\b([A-Z][a-z]\\w*)\\s*\\.\\s*(\\w+)\\s*(\\()?").matcher(body);
+        int many = 0;
+        while (named.find()) {
+            String name = named.group(1) + "." + named.group(2);
+            boolean isFunction = named.group(3) != null && LIBRARY.contains(name);
+            T.due(name + " is a function that stands in the library", own.contains(named.group(1)) || isFunction ? 1 : 0, 1);
+            many++;
+        }
+        T.due("names of the library were found", many > 10 ? 1 : 0, 1);
+    }
+
+    /** What the compiled class calls outside itself, out of its table of constants. */
+    private static void libraryUsed(Class<?> of) throws IOException {
+        String file = of.getName() + ".class";
+        try (InputStream bytes = of.getResourceAsStream(file); DataInputStream in = new DataInputStream(bytes)) {
+            in.skipBytes(8);
+            Object[] table = new Object[in.readUnsignedShort()];
+            for (int i = 1; i < table.length; i++) {
+                int tag = in.readUnsignedByte();
+                switch (tag) {
+                    case 1 -> table[i] = in.readUTF();
+                    case 7 -> table[i] = in.readUnsignedShort();
+                    case 9, 10, 11, 12 -> table[i] = new int[] {tag, in.readUnsignedShort(), in.readUnsignedShort()};
+                    case 8 -> in.skipBytes(2);
+                    case 3, 4 -> in.skipBytes(4);
+                    case 5, 6 -> {
+                        in.skipBytes(8);
+                        i++;
+                    }
+                    default -> T.due(file + " has no constant of a kind (a call made up as it runs) like", tag, 0);
+                }
+            }
+            for (Object constant : table) {
+                if (constant instanceof int[] use && use[0] != 12) {
+                    mayUse(table, use);
+                }
+            }
+        }
+    }
+
+    private static void mayUse(Object[] table, int[] use) {
+        String owner = (String) table[(int) table[use[1]]];
+        String name = (String) table[((int[]) table[use[2]])[1]];
+        String called = owner.substring(owner.lastIndexOf('/') + 1) + "." + name;
+        T.due(called + " stands in the library", owner.startsWith("GladSpider") || LIBRARY.contains(called) ? 1 : 0, 1);
+    }
+
     private static void text(String text) {
-        String code = text.replaceAll("(?s)/\\*.*?\\*/", "").replaceAll("//[^\n]*", "").replaceAll("\"[^\"\n]*\"", "\"\"");
+        String code = code(text);
         Matcher refused = Pattern.compile("\\b(throw|throws|try|catch|synchronized|assert|package|Random|Thread|"
                 + "System\\.(?!arraycopy)\\w+|Math\\.\\w+Exact|hashCode)\\b|(?<!case [^\n]{0,60}|default )->|::").matcher(code);
         T.due("no refused word" + (refused.find() ? " " + refused.group() : ""), refused.reset().find() ? 1 : 0, 0);
